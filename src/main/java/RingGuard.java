@@ -487,19 +487,14 @@ public final class RingGuard {
             int members = 0;
             int ends = 0;
             int shared = 0;
-            int sharedEnds = 0;
             for (int bridge = 0; bridge < bridgeCount; bridge++) {
                 int links = countLinks(bridge, ring);
                 if (links > 2) {
                     return false;
                 }
-                int isShared = links > 0 && isInRingBefore(bridge, ring) ? 1 : 0;
                 members += links > 0 ? 1 : 0;
-                shared += isShared;
-                if (links == 1) {
-                    ends++;
-                    sharedEnds += isShared;
-                }
+                ends += links == 1 ? 1 : 0;
+                shared += links > 0 && isInRingBefore(bridge, ring) ? 1 : 0;
             }
             if (members < 3 || !isOnePiece(ring, members, groups)) {
                 return false;
@@ -508,7 +503,8 @@ public final class RingGuard {
             if (ends == 0) {
                 return shared == (isFirst ? 0 : 1);
             }
-            return shared == 2 && sharedEnds == 2 && isHeldByClosedRing(ring);
+            // A chain's two ends are in a closed ring: so no inner bridge is among the two shared.
+            return shared == 2 && isHeldByClosedRing(ring);
         }
 
         private boolean isOnePiece(int ring, int members, Groups groups) {
@@ -721,7 +717,6 @@ public final class RingGuard {
         private void takeHold(int ring) {
             int port = plan.ownerPort[ring];
             setHolds(port, holdsOf[port] | OWNER_HOLD);
-            clock[ring] = 0;
             timesTaken[ring]++;
             takeNews(plan.placeOf[port], Cast.DONE_NAMES + ring, timesTaken[ring]);
         }

@@ -97,6 +97,7 @@ public final class CastsTest {
         Check.equal("the owner heard nothing of it", net.holds(0, 0), 16);
         // Guard is 12 ticks: DONE arrives before that and is not heard.
         net.ticks(12);
+        Check.equal("HEALED sets no clock of an owner that holds", net.told(0, 0, 2), 0);
         Check.equal("guard is over", net.told(2, 0, 1), 0);
         Check.equal("WAITING", net.holds(2, 2), 8);
         // The owner sends in tick 13, bridge 2 is two links away.
@@ -249,6 +250,15 @@ public final class CastsTest {
         Check.equal("gone with the link", gone.told(1, 0, 0), 1);
         Check.equal("the other way", gone.told(2, 0, 0), 1);
         Check.equal("not LOST", gone.lost(), 0);
+        RingGuard past = Check.ring(4, 0, 0);
+        past.fail(1);
+        past.ticks(1);
+        Check.equal("DONE both ways, FAIL of 1 and of 2", past.casts(), 4);
+        Check.equal("its own hold is all that 0 knows", past.told(0, 0, 0), 1);
+        past.ticks(1);
+        // DONE came to 1 and does not go on over link 1; the other three do; FAIL is sent twice.
+        Check.equal("none goes on over a failed link", past.casts(), 5);
+        Check.equal("FAIL bears the link that failed", past.told(0, 0, 0), 2);
     }
 
     private static void lostCasts() {

@@ -245,6 +245,7 @@ public final class CommandsTest {
         Check.equal("guard", laid.told(3, 1, 1), 13);
         Check.equal("guard of a ring where it is not", laid.told(3, 0, 1), 0);
         Check.equal("the owner's clock", laid.told(3, 1, 2), 60);
+        Check.equal("whichever bridge is asked", laid.told(4, 1, 2), 60);
         Check.equal("that of another ring", laid.told(3, 0, 2), 0);
     }
 }
