@@ -1046,7 +1046,7 @@ public final class RingGuard {
             stepCount = 0;
             addStep(bridgeOfHost[from], NONE);
             int delivered = 0;
-            for (int step = 0; step < stepCount; step++) {
+            for (int step = 0; step < MOST_STEPS && step < stepCount; step++) {
                 int bridge = stepBridge[step];
                 int cameOver = stepLink[step];
                 if (cameOver != NONE) {
